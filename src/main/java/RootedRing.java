@@ -670,17 +670,23 @@ public final class RootedRing {
         }
 
         void spread(int x, int[] row) {
+            if (m < 2) {
+                return;
+            }
             int left = x;
             for (int i = 0; i < row.length; i++) {
-                row[i] = Sure.remainder(left, m);
-                left = Sure.quotient(left, m);
+                row[i] = left % m;
+                left /= m;
             }
         }
 
         private int gather(int[] row) {
+            if (m < 2) {
+                return 0;
+            }
             int x = 0;
-            for (int i = r - 1; i >= 0; i--) {
-                x = x * m + Sure.remainder(Sure.at(row, i), m);
+            for (int i = Math.min(r, row.length) - 1; i >= 0; i--) {
+                x = x * m + row[i] % m;
             }
             return x;
         }
