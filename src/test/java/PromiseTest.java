@@ -631,6 +631,15 @@ public final class PromiseTest {
         is("not SMALL", () -> x.nearest(NONE), NONE);
         is("not SMALL, its number", () -> x.nearest(14), NONE);
         no("not SMALL, no such number", () -> x.nearest(15));
+        x.ring(2, 1, 6);
+        x.code(63, (1 << 13) - 1);
+        int[] ones = new int[63];
+        Arrays.fill(ones, 1);
+        word(ones);
+        is("all 63 off", () -> x.nearest(NONE), 63);
+        is("all 63 off, the last", () -> x.nearest(62), 0);
+        x.code(63, 0);
+        is("CHECK of 63", () -> x.coefficient(1, 63), 1);
     }
 
     private void says(int element, String due) {
