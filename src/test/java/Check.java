@@ -13,8 +13,26 @@ final class Check {
     private static int asked = 0;
     private static int wrong = 0;
     private static final int MOST_TOLD = 40;
+    private static final long MOST_MILLIS = 15 * 60 * 1000;
+
+    static {
+        Thread guard = new Thread(Check::endLate);
+        guard.setDaemon(true);
+        guard.start();
+    }
 
     private Check() {
+    }
+
+    /** A call that does not end is wrong too. */
+    private static void endLate() {
+        try {
+            Thread.sleep(MOST_MILLIS);
+        } catch (InterruptedException e) {
+            return;
+        }
+        System.out.println("no end after " + asked + " asked");
+        Runtime.getRuntime().halt(1);
     }
 
     /** What a call answers, its exceptions too. */

@@ -1,9 +1,9 @@
 import com.sun.management.ThreadMXBean;
 import java.lang.management.ManagementFactory;
 
-/** The dearest calls, 512 of each kind on one object: what they make stays small, and they end soon. */
+/** The dearest calls, 128 of each kind on one object: what they make stays small, and they end soon. */
 public final class RoomTest {
-    private static final int CALLS = 512;
+    private static final int CALLS = 128;
     private static final long MOST_BYTES_OF_NEW = 100_000;
     private static final long MOST_BYTES_A_CALL = 200;
     private static final long MOST_MILLIS = 60_000;
