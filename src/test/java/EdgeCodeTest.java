@@ -153,6 +153,18 @@ public final class EdgeCodeTest extends Edge {
         is("count 8", x -> x.count(8), 8);
         row("MAKER", i -> x -> x.coefficient(0, i), 1);
         row("CHECK", i -> x -> x.coefficient(1, i), 8, 0, 0, 0, 0, 0, 0, 0, 1);
+        sentence("3, W, n 2: it is -1", 3, 2, 2);
+        is("CLASS 0", x -> x.code(2, 1), 1);
+        row("MAKER", i -> x -> x.coefficient(0, i), 8, 1);
+        row("CHECK", i -> x -> x.coefficient(1, i), 1, 1);
+        is("CLASS 1", x -> x.code(2, 2), 1);
+        row("MAKER", i -> x -> x.coefficient(0, i), 1, 1);
+        row("CHECK", i -> x -> x.coefficient(1, i), 8, 1);
+        sentence("3, W, n Q - 1: it is GENERATOR", 7, 2, 1);
+        is("CLASS 1", x -> x.code(6, 2), 5);
+        row("MAKER", i -> x -> x.coefficient(0, i), 30, 1);
+        is("CLASS 5", x -> x.code(6, 32), 5);
+        row("MAKER", i -> x -> x.coefficient(0, i), 18, 1);
         sentence("3, CHECK of all CLASSES: 1", x -> {
             x.ring(3, 2, 2);
             x.code(8, (1 << 5) - 1);

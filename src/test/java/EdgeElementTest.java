@@ -182,6 +182,15 @@ public final class EdgeElementTest extends Edge {
             is("of GENERATOR", x -> x.digit(g, 0), last == 0 ? 0 : 1);
             is("of 1 by GENERATOR", x -> x.digit(x.of(g, 8), 0), last);
         }
+        int[][] fields = {{2, 1, 1}, {2, 1, 6}, {3, 1, 6}, {5, 1, 5}, {7, 1, 4}};
+        for (int[] ring : fields) {
+            sentence("1, ROOTS, e 1: all ELEMENTS, the last too", ring[0], ring[1], ring[2]);
+            int y = x.count(5) - 1;
+            is("ROOT OF", x -> x.of(y, 1), y);
+            is("SPLIT", x -> x.of(y, 6), 1);
+            is("its LOG", x -> x.whole(x.digit(y, 0), NONE, NONE, NONE), y);
+            is("by itself", x -> x.element(3, y, y), 1);
+        }
     }
 
     private void wholeOfLogs() {
