@@ -144,6 +144,10 @@ public final class EdgeElementTest extends Edge {
         row("of 8", i -> x -> x.digit(8, i), NONE, NONE, NONE, 0);
         row("of 7", i -> x -> x.digit(7, i), 0, 0, 0, NONE);
         row("of 0", i -> x -> x.digit(0, i), NONE, NONE, NONE, NONE);
+        sentence("11, DIGITS, r over e", 2, 2, 3);
+        row("of 1 + t", i -> x -> x.digit(5, i), 3, 4);
+        row("of 3 + 3 t + 3 t^2", i -> x -> x.digit(63, i), 5, 2);
+        row("of 2 t^2", i -> x -> x.digit(32, i), NONE, 2);
         sentence("11, DIGITS that carry", 3, 4, 1);
         row("of 80", i -> x -> x.digit(80, i), 1, NONE, NONE, NONE);
         row("of 2", i -> x -> x.digit(2, i), 1, 0, NONE, NONE);
@@ -297,6 +301,11 @@ public final class EdgeElementTest extends Edge {
         list("of 8, n 27", i -> x -> x.roots(8, 27, i), 2, 5, 8);
         list("n 1", i -> x -> x.roots(8, 1, i), 8);
         list("n 30", i -> x -> x.roots(1, 30, i), 1, 2, 4, 5, 7, 8);
+        sentence("14, ELEMENTS whose POWER n is x, of all ELEMENTS", 2, 1, 2);
+        list("of t, n 2", i -> x -> x.roots(2, 2, i), 3);
+        list("of t + 1, n 2", i -> x -> x.roots(3, 2, i), 2);
+        list("of t, n 3", i -> x -> x.roots(2, 3, i));
+        list("of 1, n 3", i -> x -> x.roots(1, 3, i), 1, 2, 3);
         sentence("14, no such i, many of them", 2, 2, 6);
         is("of 0", x -> x.roots(0, 2, NONE), 64);
         is("the last", x -> x.roots(0, 2, 63), 2730);

@@ -1,3 +1,5 @@
+import java.util.Arrays;
+
 /** The edges that the document names for RINGS and PLACES: Terms 1, promises 1, 2, 6, 7, 8. */
 public final class EdgeRingTest extends Edge {
     public static void main(String[] args) {
@@ -186,6 +188,13 @@ public final class EdgeRingTest extends Edge {
         is("t^5 times t", x -> x.element(2, 32, 2), 3);
         is("t^5 times t^5", x -> x.element(2, 32, 32), 48);
         is("t^3 times t^2", x -> x.element(2, 8, 4), 32);
+        int[][] due = {{2, 1, 2, 1, 1, 1}, {2, 1, 3, 1, 1, 0, 1}, {2, 1, 4, 1, 1, 0, 0, 1}, {2, 1, 5, 1, 0, 1, 0, 0, 1},
+            {2, 2, 3, 3, 1, 2, 1}, {2, 2, 2, 1, 1, 1}, {3, 1, 2, 1, 0, 1}, {3, 1, 3, 1, 2, 0, 1}, {5, 1, 2, 2, 0, 1},
+            {7, 1, 2, 1, 0, 1}, {7, 2, 2, 1, 0, 1}, {5, 2, 2, 7, 0, 1}};
+        for (int[] d : due) {
+            sentence("1, MODULUS makes the least number, " + d[0] + " " + d[1] + " " + d[2], d[0], d[1], d[2]);
+            row("coefficient", i -> x -> x.modulus(i), Arrays.copyOfRange(d, 3, d.length));
+        }
         sentence("1, MODULUS for r 1 is t", 7, 2, 1);
         is("8 times 8", x -> x.element(2, 8, 8), 15);
     }
@@ -263,6 +272,18 @@ public final class EdgeRingTest extends Edge {
         row("how many", i -> x -> x.many(1, i), 1024, 1024, 1024, 1024, 0, 0);
         sentence("1, TRACE: it, it MOVED, .. (r of them), r 2", 2, 2, 2);
         row("of", i -> x -> x.of(i, 3), 0, 2, 0, 2, 3, 1, 3, 1, 2, 0, 2, 0, 1, 3, 1, 3);
+        sentence("1, TRACE: it, it MOVED, MOVED twice, .. (r of them), r 3", 2, 2, 3);
+        for (int i = 0; i < 64; i++) {
+            int y = i;
+            // by MODULUS t^3 + 2 t^2 + t + 3 the three of 1, t, t^2 together are 3, 2, 2
+            is("of " + i, x -> x.of(y, 3), (3 * (y % 4) + 2 * (y / 4 % 4) + 2 * (y / 16)) % 4);
+        }
+        sentence("1, TRACE: it, it MOVED, MOVED twice, .. (r of them), r 6", 2, 1, 6);
+        for (int i = 0; i < 64; i++) {
+            int y = i;
+            // by MODULUS t^6 + t + 1 those of 1, t, .. t^4 are 0, that of t^5 is 1
+            is("of " + i, x -> x.of(y, 3), y / 32);
+        }
         sentence("1, TRACE, r 1: itself", 5, 2, 1);
         is("of 24", x -> x.of(24, 3), 24);
         is("of 0", x -> x.of(0, 3), 0);
@@ -279,6 +300,11 @@ public final class EdgeRingTest extends Edge {
         row("how many", i -> x -> x.many(2, i), 8, 28, 0, 28, 0, 0);
         sentence("1, NORM: these times one another, r 2", 2, 2, 2);
         row("of", i -> x -> x.of(i, 4), 0, 1, 0, 1, 1, 1, 3, 3, 0, 3, 0, 3, 1, 3, 3, 1);
+        sentence("1, NORM: these times one another, r 3", 2, 2, 3);
+        int[][] due = {{4, 1}, {12, 3}, {16, 1}, {5, 1}, {7, 1}, {8, 0}, {10, 0}, {6, 3}};
+        for (int[] d : due) {
+            is("of " + d[0], x -> x.of(d[0], 4), d[1]);
+        }
         sentence("1, NORM, r 1: itself", 5, 2, 1);
         is("of 24", x -> x.of(24, 4), 24);
         is("of 5", x -> x.of(5, 4), 5);

@@ -169,6 +169,16 @@ public final class EdgeWordTest extends Edge {
                 is(v + " at " + i, x -> word(x, row), 0);
             }
         }
+        sentence("24, SIZE 1: numbers that are alike alone", x -> {
+            x.ring(2, 2, 3);
+            x.code(7, 6);
+        });
+        is("all 1", x -> word(x, 1, 1, 1, 1, 1, 1, 1), 1);
+        is("all 3", x -> word(x, 3, 3, 3, 3, 3, 3, 3), 1);
+        is("the last 2", x -> word(x, 3, 3, 3, 3, 3, 3, 2), 0);
+        row("its REST", i -> x -> x.rest(i), 1, 1, 1, 1, 1, 1);
+        is("the first 0", x -> word(x, 0, 1, 1, 1, 1, 1, 1), 0);
+        row("its REST", i -> x -> x.rest(i), 3, 0, 0, 0, 0, 0, Check.NO_ELEMENT);
         sentence("24, SIZE 0: 0 alone", x -> {
             x.ring(2, 2, 3);
             x.code(7, 7);
